@@ -71,6 +71,9 @@ public final class ChangesTest {
         for (int request = 2; request < 40; request++) {
             Check.same("number", x.ask(request % 2, request % 3), request);
         }
+        Check.same("of 40 requests 38 wait", x.size(6), 38);
+        Check.same("half of them for bank 1", x.bank(1, 2), 19);
+        Check.same("the last of its line", x.waiting(1, 18), 39);
         Check.noState("a request 41", () -> x.ask(0, 0));
         Check.noIndex("bank ahead of the number", () -> x.ask(2, 0));
         Check.noIndex("bank -1", () -> x.ask(-1, 0));

@@ -2,6 +2,7 @@
 public final class SumsTest {
     public static void main(String[] args) {
         promises18And19();
+        promise18OfOne();
         promise20();
         promise21();
         promise21Wrong();
@@ -33,6 +34,20 @@ public final class SumsTest {
         Memory.parse(x, "memory 1 1 4 1;");
         Check.same("mean behind a parse", x.meanWait(), 0.0);
         Check.same("greatest behind a parse", x.greatestWait(), -1);
+    }
+
+    private static void promise18OfOne() {
+        RefreshTrader x = Memory.of("memory 1 2 50 99; margin 20; weak 0 0 20 0; ask 0 0 1;");
+        x.pass(3);
+        Check.same("urgent refreshes are ahead", x.meanWait(), 0.0);
+        Check.same("none is served", x.greatestWait(), -1);
+        x.set(6, 0);
+        x.pass(1);
+        Check.same("mean of one", x.meanWait(), 3.0);
+        Check.same("greatest of one", x.greatestWait(), 3);
+        Memory.parse(x, "memory 1 2 50 99; ask 0 0 1;");
+        x.pass(1);
+        Check.same("the mean of the new memory", x.meanWait(), 0.0);
     }
 
     private static void promise20() {

@@ -22,8 +22,10 @@ public final class TextTest {
         promise3Buffer();
         promise3ErrorLeavesMemory();
         promise3SuccessReplaces();
+        promise3TextsAreApart();
         promise4();
         promise5();
+        promise5LostRows();
         promise6();
         Check.end();
     }
@@ -118,6 +120,8 @@ public final class TextTest {
         bad(1, "memory ^");
         bad(1, "^memor 1 1 4 1;");
         bad(1, "^memoryx 1 1 4 1;");
+        bad(1, "^memoryz 1 1 4 1;");
+        bad(1, "^nemory 1 1 4 1;");
         bad(1, "^trading;");
         bad(1, "^;");
         bad(1, "^1 1 4 1;");
@@ -169,6 +173,8 @@ public final class TextTest {
         bad(1, HEAD + "^memory 1 1 4 1;");
         bad(1, HEAD + "^slot 1;");
         bad(1, HEAD + "^slotss 1;");
+        bad(1, HEAD + "^blots 1;");
+        bad(1, HEAD + "^gains 1;");
         bad(1, HEAD + "trading^");
         bad(1, HEAD + "trading ^1;");
         bad(1, HEAD + "trading ^slots 1;");
@@ -283,6 +289,30 @@ public final class TextTest {
         Check.same("the second memory goes on", Picture.of(x), Picture.of(y));
     }
 
+    /** What was told in one text was not told in the next one, be it right or not. */
+    private static void promise3TextsAreApart() {
+        RefreshTrader x = new RefreshTrader();
+        String asks = HEAD + "ask 0 0 0;".repeat(20);
+        Check.same("20 requests", Memory.parse(x, asks), 0);
+        Check.same("20 requests again", Memory.parse(x, asks), 0);
+        Check.same("21 requests", Memory.parse(x, asks + "ask 0 0 0;"), 4);
+        Check.same("20 requests then", Memory.parse(x, asks), 0);
+        Check.same("requests", x.size(5), 20);
+        String all = HEAD + "slots 2;most 2;ahead 2;hot 2;gain 2;patience 2;margin 3;trading;weak 1 1 5 0;";
+        Check.same("all settings", Memory.parse(x, all), 0);
+        Check.same("all settings again", Memory.parse(x, all), 0);
+        Check.same("all settings, and an error", Memory.parse(x, all + ";"), 1);
+        Check.same("all settings then", Memory.parse(x, all), 0);
+        Check.same("a text without any", Memory.parse(x, HEAD), 0);
+        Check.same("it is as on a new object", Picture.of(x), Picture.of(Memory.of(HEAD)));
+        x.ask(0, 0);
+        x.ask(0, 1);
+        Check.same("a text with a request", Memory.parse(x, HEAD + "ask 7 1 1;"), 0);
+        x.ask(1, 0);
+        x.pass(1);
+        Check.same("the request is to come", x.request(0, 3), 0);
+    }
+
     private static void promise4() {
         RefreshTrader x = new RefreshTrader();
         Memory.parse(x, "memory 1 1 4 1; x;");
@@ -321,12 +351,26 @@ public final class TextTest {
         Check.same("changes that can be undone", x.size(10), 3);
         Check.noArgument("size -1", () -> x.size(-1));
         Check.noArgument("size 11", () -> x.size(11));
-        RefreshTrader y = Memory.of("memory 4 16 4 99; margin 0;");
+        x.pass(5);
+        x.ask(1, 0);
+        Check.same("none but the new one waits", x.size(6), 1);
+        RefreshTrader one = Memory.of("memory 1 1 99 99;");
+        one.ask(0, 0);
+        Check.same("the first request waits", one.size(6), 1);
+    }
+
+    private static void promise5LostRows() {
+        RefreshTrader x = Memory.of("memory 4 16 4 99; margin 0;");
         // Of 64 rows one is refreshed in the tick with the time 4, in which the others are lost.
-        y.pass(5);
-        Check.same("rows that are lost", y.size(7), 63);
-        y.pass(1);
-        Check.same("a touched row is not lost", y.size(7), 62);
+        x.pass(5);
+        Check.same("rows that are lost", x.size(7), 63);
+        x.pass(1);
+        Check.same("a touched row is not lost", x.size(7), 62);
+        RefreshTrader first = Memory.of("memory 1 2 4 99; margin 0; weak 0 1 3 4;");
+        // At the time 4 remain 0 of row 0 and -1 of row 1, so that row 0 is lost.
+        first.pass(5);
+        Check.same("the first row is lost", first.size(7), 1);
+        Check.same("it is the first row", first.row(0, 0, 3), 1);
     }
 
     private static void promise6() {
