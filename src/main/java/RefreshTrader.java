@@ -1073,18 +1073,11 @@ public final class RefreshTrader {
             }
             kind = sortOf(bytes[start]);
             end++;
-            if (kind == WORD) {
-                goToEndOfRun(MAX_LETTERS);
-            } else if (kind == NUMBER) {
-                goToEndOfRun(MAX_DIGITS);
-            }
-        }
-
-        private void goToEndOfRun(int longest) {
-            while (end < textLength && sortOf(bytes[end]) == kind) {
+            boolean isRun = kind == WORD || kind == NUMBER;
+            while (isRun && end < textLength && sortOf(bytes[end]) == kind) {
                 end++;
             }
-            if (end - start > longest) {
+            if (isRun && end - start > (kind == WORD ? MAX_LETTERS : MAX_DIGITS)) {
                 kind = INVALID;
             }
         }
