@@ -25,6 +25,7 @@ public final class RefreshTrader {
     private static final int MAX_AHEAD = 300;
     private static final int MAX_UNDO = 10;
     private static final int MAX_SNAPSHOTS = 2;
+    private static final int FAR_ABOVE_ALL = 1000000000;
 
     private static final int SLOTS = 0;
     private static final int MOST = 1;
@@ -190,7 +191,7 @@ public final class RefreshTrader {
 
     public int weakest() {
         int found = 0;
-        int least = Integer.MAX_VALUE;
+        int least = FAR_ABOVE_ALL;
         for (int bank = 0; bank < layout.banks; bank++) {
             for (int row = 0; row < layout.rows; row++) {
                 int remains = boundOf(layout, now, bank, row) - now.rows.age[cellOf(bank, row)];
@@ -819,7 +820,7 @@ public final class RefreshTrader {
 
         private int coolestTaker(State state) {
             int found = NONE;
-            int least = Integer.MAX_VALUE;
+            int least = FAR_ABOVE_ALL;
             for (int bank = 0; bank < layout.banks; bank++) {
                 if (state.canTake(bank) && state.banks.heat[bank] < least) {
                     least = state.banks.heat[bank];
@@ -831,7 +832,7 @@ public final class RefreshTrader {
 
         /** Keeps the bounds for step 7, which wants them with the heats of before step 6. */
         private void lookAt(State state, int bank) {
-            leastRemains[bank] = Integer.MAX_VALUE;
+            leastRemains[bank] = FAR_ABOVE_ALL;
             weakestRow[bank] = 0;
             for (int row = 0; row < layout.rows; row++) {
                 int cell = cellOf(bank, row);

@@ -31,6 +31,13 @@ final class Memory {
         return length;
     }
 
+    /** Lets ticks pass up to a time, be it more than one call may. */
+    static void passTo(RefreshTrader x, int time) {
+        while (x.size(4) < time) {
+            x.pass(Math.min(200, time - x.size(4)));
+        }
+    }
+
     private static int word(byte[] bytes, int from) {
         int word = 0;
         for (int i = from; i < from + 4; i++) {

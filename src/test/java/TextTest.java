@@ -2,12 +2,6 @@ import java.nio.charset.StandardCharsets;
 
 /** Promises 1 to 6: a new object, the input buffer, the text and its errors, counts and settings. */
 public final class TextTest {
-    private static final String HEAD = "memory 2 3 10 5;";
-    private static final String[] SETTINGS = {"slots", "most", "ahead", "hot", "gain", "patience", "margin"};
-    private static final int[] LEAST = {1, 1, 0, 1, 1, 1, 0};
-    private static final int[] GREATEST = {4, 8, 8, 99, 20, 99, 20};
-    private static final int[] NOT_TOLD = {1, 4, 0, 99, 1, 20, 2};
-
     public static void main(String[] args) {
         promise1();
         promise2();
@@ -30,30 +24,14 @@ public final class TextTest {
         Check.end();
     }
 
-    /** A text is right. */
-    private static void right(String text) {
-        RefreshTrader x = new RefreshTrader();
-        Check.same("code of " + text, Memory.parse(x, text), 0);
-        Check.same("error position of " + text, x.errorPosition(), -1);
-    }
-
-    /** A text has an error with this code, at the place of the sign ^. */
-    private static void bad(int code, String marked) {
-        int position = marked.indexOf('^');
-        String text = marked.substring(0, position) + marked.substring(position + 1);
-        RefreshTrader x = new RefreshTrader();
-        Check.same("code of " + marked, Memory.parse(x, text), code);
-        Check.same("error position of " + marked, x.errorPosition(), position);
-    }
-
     private static void promise1() {
         RefreshTrader x = new RefreshTrader();
         int[] sizes = {1, 1, 4, 1, 0, 0, 0, 0, 0, 0, 0};
         for (int what = 0; what < sizes.length; what++) {
             Check.same("new: size " + what, x.size(what), sizes[what]);
         }
-        for (int what = 0; what < NOT_TOLD.length; what++) {
-            Check.same("new: setting " + what, x.setting(what), NOT_TOLD[what]);
+        for (int what = 0; what < Texts.NOT_TOLD.length; what++) {
+            Check.same("new: setting " + what, x.setting(what), Texts.NOT_TOLD[what]);
         }
         int[] row = {0, 4, 4, 0, 0, 0, 0, -1, -1};
         for (int what = 0; what < row.length; what++) {
@@ -101,139 +79,140 @@ public final class TextTest {
     }
 
     private static void promise3Right() {
-        right("memory 1 1 4 1;");
-        right("memory 4 16 999 99;");
-        right("memory 004 016 010 099;");
-        right("  memory\n1\n\n1 4 1 ; \n");
-        right("memory1 1 4 1;slots2;weak0 0 7 3;");
-        right(HEAD + "trading;slots 4;most 8;ahead 8;hot 99;gain 20;patience 99;margin 20;");
-        right(HEAD + "slots 1;most 1;ahead 0;hot 1;gain 1;patience 1;margin 0;");
-        right(HEAD + "weak 1 2 999 999;weak 0 0 1 0;weak 1 1 9 9;weak 0 1 9 9;ask 999 1 2;ask 0 0 0;ask 0 0 0;");
-        right(HEAD + "ask 0 0 0;".repeat(20));
-        right(HEAD + " ".repeat(584));
+        Texts.right("memory 1 1 4 1;");
+        Texts.right("memory 4 16 999 99;");
+        Texts.right("memory 004 016 010 099;");
+        Texts.right("  memory\n1\n\n1 4 1 ; \n");
+        Texts.right("memory1 1 4 1;slots2;weak0 0 7 3;");
+        Texts.right(Texts.HEAD + "trading;slots 4;most 8;ahead 8;hot 99;gain 20;patience 99;margin 20;");
+        Texts.right(Texts.HEAD + "slots 1;most 1;ahead 0;hot 1;gain 1;patience 1;margin 0;");
+        Texts.right(Texts.HEAD + "weak 1 2 999 999;weak 0 0 1 0;weak 1 1 9 9;weak 0 1 9 9;"
+                + "ask 999 1 2;ask 0 0 0;ask 0 0 0;");
+        Texts.right(Texts.HEAD + "ask 0 0 0;".repeat(20));
+        Texts.right(Texts.HEAD + " ".repeat(584));
     }
 
     private static void promise3Head() {
-        bad(1, "^");
-        bad(1, "   ^");
-        bad(1, "memory^");
-        bad(1, "memory ^");
-        bad(1, "^memor 1 1 4 1;");
-        bad(1, "^memoryx 1 1 4 1;");
-        bad(1, "^memoryz 1 1 4 1;");
-        bad(1, "^nemory 1 1 4 1;");
-        bad(1, "^trading;");
-        bad(1, "^;");
-        bad(1, "^1 1 4 1;");
-        bad(1, "memory ^x 1 4 1;");
-        bad(1, "memory ^; 1 4 1;");
-        bad(1, "memory 1 ^;");
-        bad(1, "memory 1 1 ^;");
-        bad(1, "memory 1 1 4 ^;");
-        bad(1, "memory 1 1 4 1^");
-        bad(1, "memory 1 1 4 1 ^1;");
-        bad(1, "memory 1 1 4 1 ^trading;");
-        bad(3, "memory ^0 1 4 1;");
-        bad(3, "memory ^5 1 4 1;");
-        bad(3, "memory 1 ^0 4 1;");
-        bad(3, "memory 1 ^17 4 1;");
-        bad(3, "memory 1 1 ^3 1;");
-        bad(3, "memory 1 1 ^0 1;");
-        bad(3, "memory 1 1 4 ^0;");
-        bad(3, "memory 1 1 4 ^100;");
-        bad(3, "memory ^9 0 0 0");
-        bad(3, "memory ^9 x ! slots slots");
+        Texts.bad(1, "^");
+        Texts.bad(1, "   ^");
+        Texts.bad(1, "memory^");
+        Texts.bad(1, "memory ^");
+        Texts.bad(1, "^memor 1 1 4 1;");
+        Texts.bad(1, "^memoryx 1 1 4 1;");
+        Texts.bad(1, "^memoryz 1 1 4 1;");
+        Texts.bad(1, "^nemory 1 1 4 1;");
+        Texts.bad(1, "^trading;");
+        Texts.bad(1, "^;");
+        Texts.bad(1, "^1 1 4 1;");
+        Texts.bad(1, "memory ^x 1 4 1;");
+        Texts.bad(1, "memory ^; 1 4 1;");
+        Texts.bad(1, "memory 1 ^;");
+        Texts.bad(1, "memory 1 1 ^;");
+        Texts.bad(1, "memory 1 1 4 ^;");
+        Texts.bad(1, "memory 1 1 4 1^");
+        Texts.bad(1, "memory 1 1 4 1 ^1;");
+        Texts.bad(1, "memory 1 1 4 1 ^trading;");
+        Texts.bad(3, "memory ^0 1 4 1;");
+        Texts.bad(3, "memory ^5 1 4 1;");
+        Texts.bad(3, "memory 1 ^0 4 1;");
+        Texts.bad(3, "memory 1 ^17 4 1;");
+        Texts.bad(3, "memory 1 1 ^3 1;");
+        Texts.bad(3, "memory 1 1 ^0 1;");
+        Texts.bad(3, "memory 1 1 4 ^0;");
+        Texts.bad(3, "memory 1 1 4 ^100;");
+        Texts.bad(3, "memory ^9 0 0 0");
+        Texts.bad(3, "memory ^9 x ! slots slots");
     }
 
     private static void promise3Tokens() {
-        bad(1, "memory ^0001 1 4 1;");
-        bad(1, "memory 1 1 ^1000 1;");
-        bad(1, "^Memory 1 1 4 1;");
-        bad(1, "memory^\t1 1 4 1;");
-        bad(1, "memory^\r\n1 1 4 1;");
-        bad(1, "memory ^-1 1 4 1;");
-        bad(1, "memory 1 1 4 1^:");
-        bad(1, "memory 1 1 4 1^,");
-        bad(1, "memory 1 1 4 1^\u00e9;");
-        bad(1, HEAD + "slots 1^/;");
-        bad(1, HEAD + "^`;");
-        bad(1, HEAD + "^{;");
-        bad(1, HEAD + "^\u0000;");
-        bad(1, HEAD + "^\u0080;");
-        bad(1, HEAD + "^patiencea 9;");
-        bad(1, HEAD + "^abcdefgh;");
-        bad(1, HEAD + "slots ^a1;");
-        bad(1, HEAD + "slots 1^a;");
+        Texts.bad(1, "memory ^0001 1 4 1;");
+        Texts.bad(1, "memory 1 1 ^1000 1;");
+        Texts.bad(1, "^Memory 1 1 4 1;");
+        Texts.bad(1, "memory^\t1 1 4 1;");
+        Texts.bad(1, "memory^\r\n1 1 4 1;");
+        Texts.bad(1, "memory ^-1 1 4 1;");
+        Texts.bad(1, "memory 1 1 4 1^:");
+        Texts.bad(1, "memory 1 1 4 1^,");
+        Texts.bad(1, "memory 1 1 4 1^\u00e9;");
+        Texts.bad(1, Texts.HEAD + "slots 1^/;");
+        Texts.bad(1, Texts.HEAD + "^`;");
+        Texts.bad(1, Texts.HEAD + "^{;");
+        Texts.bad(1, Texts.HEAD + "^\u0000;");
+        Texts.bad(1, Texts.HEAD + "^\u0080;");
+        Texts.bad(1, Texts.HEAD + "^patiencea 9;");
+        Texts.bad(1, Texts.HEAD + "^abcdefgh;");
+        Texts.bad(1, Texts.HEAD + "slots ^a1;");
+        Texts.bad(1, Texts.HEAD + "slots 1^a;");
     }
 
     private static void promise3Statements() {
-        bad(1, HEAD + "^;");
-        bad(1, HEAD + "trading;^;");
-        bad(1, HEAD + "^7;");
-        bad(1, HEAD + "^memory 1 1 4 1;");
-        bad(1, HEAD + "^slot 1;");
-        bad(1, HEAD + "^slotss 1;");
-        bad(1, HEAD + "^blots 1;");
-        bad(1, HEAD + "^gains 1;");
-        bad(1, HEAD + "trading^");
-        bad(1, HEAD + "trading ^1;");
-        bad(1, HEAD + "trading ^slots 1;");
-        bad(2, HEAD + "trading;^trading;");
-        bad(2, HEAD + "trading;slots 2;^trading 7");
+        Texts.bad(1, Texts.HEAD + "^;");
+        Texts.bad(1, Texts.HEAD + "trading;^;");
+        Texts.bad(1, Texts.HEAD + "^7;");
+        Texts.bad(1, Texts.HEAD + "^memory 1 1 4 1;");
+        Texts.bad(1, Texts.HEAD + "^slot 1;");
+        Texts.bad(1, Texts.HEAD + "^slotss 1;");
+        Texts.bad(1, Texts.HEAD + "^blots 1;");
+        Texts.bad(1, Texts.HEAD + "^gains 1;");
+        Texts.bad(1, Texts.HEAD + "trading^");
+        Texts.bad(1, Texts.HEAD + "trading ^1;");
+        Texts.bad(1, Texts.HEAD + "trading ^slots 1;");
+        Texts.bad(2, Texts.HEAD + "trading;^trading;");
+        Texts.bad(2, Texts.HEAD + "trading;slots 2;^trading 7");
     }
 
     private static void promise3Weak() {
-        bad(1, HEAD + "weak^");
-        bad(1, HEAD + "weak ^;");
-        bad(1, HEAD + "weak 0 ^;");
-        bad(1, HEAD + "weak 0 0 ^;");
-        bad(1, HEAD + "weak 0 0 1 ^;");
-        bad(1, HEAD + "weak 0 0 1 0 ^0;");
-        bad(1, HEAD + "weak 0 0 1 0^");
-        bad(3, HEAD + "weak ^2 0 1 0;");
-        bad(3, HEAD + "weak 0 ^3 1 0;");
-        bad(3, HEAD + "weak 0 0 ^0 0;");
-        bad(1, HEAD + "weak 0 0 1 ^1000;");
-        bad(2, HEAD + "weak 1 2 9 0;weak 1 ^2 9 0;");
-        bad(2, HEAD + "weak 1 2 9 0;weak 0 2 9 0;weak 1 1 9 0;weak 1 ^2 0 x");
-        bad(3, HEAD + "weak 1 2 9 0;weak ^2 2 9 0;");
+        Texts.bad(1, Texts.HEAD + "weak^");
+        Texts.bad(1, Texts.HEAD + "weak ^;");
+        Texts.bad(1, Texts.HEAD + "weak 0 ^;");
+        Texts.bad(1, Texts.HEAD + "weak 0 0 ^;");
+        Texts.bad(1, Texts.HEAD + "weak 0 0 1 ^;");
+        Texts.bad(1, Texts.HEAD + "weak 0 0 1 0 ^0;");
+        Texts.bad(1, Texts.HEAD + "weak 0 0 1 0^");
+        Texts.bad(3, Texts.HEAD + "weak ^2 0 1 0;");
+        Texts.bad(3, Texts.HEAD + "weak 0 ^3 1 0;");
+        Texts.bad(3, Texts.HEAD + "weak 0 0 ^0 0;");
+        Texts.bad(1, Texts.HEAD + "weak 0 0 1 ^1000;");
+        Texts.bad(2, Texts.HEAD + "weak 1 2 9 0;weak 1 ^2 9 0;");
+        Texts.bad(2, Texts.HEAD + "weak 1 2 9 0;weak 0 2 9 0;weak 1 1 9 0;weak 1 ^2 0 x");
+        Texts.bad(3, Texts.HEAD + "weak 1 2 9 0;weak ^2 2 9 0;");
     }
 
     private static void promise3Ask() {
-        bad(1, HEAD + "ask^");
-        bad(1, HEAD + "ask ^;");
-        bad(1, HEAD + "ask 0 ^;");
-        bad(1, HEAD + "ask 0 0 ^;");
-        bad(1, HEAD + "ask 0 0 0^");
-        bad(1, HEAD + "ask ^1000 0 0;");
-        bad(3, HEAD + "ask 0 ^2 0;");
-        bad(3, HEAD + "ask 2 0 ^3;");
-        bad(3, "memory 4 16 10 1; ask 0 ^4 0;");
-        bad(3, "memory 4 16 10 1; ask 0 3 ^16;");
-        bad(4, HEAD + "ask 0 0 0;".repeat(20) + "^ask 0 0 0;");
-        bad(4, HEAD + "ask 0 0 0;".repeat(20) + "trading; ^ask;");
-        bad(3, HEAD + "ask 0 0 0;".repeat(19) + "ask 0 0 ^9; ask 0 0 0; ask 0 0 0;");
+        Texts.bad(1, Texts.HEAD + "ask^");
+        Texts.bad(1, Texts.HEAD + "ask ^;");
+        Texts.bad(1, Texts.HEAD + "ask 0 ^;");
+        Texts.bad(1, Texts.HEAD + "ask 0 0 ^;");
+        Texts.bad(1, Texts.HEAD + "ask 0 0 0^");
+        Texts.bad(1, Texts.HEAD + "ask ^1000 0 0;");
+        Texts.bad(3, Texts.HEAD + "ask 0 ^2 0;");
+        Texts.bad(3, Texts.HEAD + "ask 2 0 ^3;");
+        Texts.bad(3, "memory 4 16 10 1; ask 0 ^4 0;");
+        Texts.bad(3, "memory 4 16 10 1; ask 0 3 ^16;");
+        Texts.bad(4, Texts.HEAD + "ask 0 0 0;".repeat(20) + "^ask 0 0 0;");
+        Texts.bad(4, Texts.HEAD + "ask 0 0 0;".repeat(20) + "trading; ^ask;");
+        Texts.bad(3, Texts.HEAD + "ask 0 0 0;".repeat(19) + "ask 0 0 ^9; ask 0 0 0; ask 0 0 0;");
     }
 
     private static void promise3Settings() {
-        for (int what = 0; what < SETTINGS.length; what++) {
-            String word = SETTINGS[what];
-            right(HEAD + word + " " + LEAST[what] + ";");
-            right(HEAD + word + " " + GREATEST[what] + ";");
-            bad(3, HEAD + word + " ^" + (GREATEST[what] + 1) + ";");
-            if (LEAST[what] > 0) {
-                bad(3, HEAD + word + " ^" + (LEAST[what] - 1) + ";");
+        for (int what = 0; what < Texts.SETTINGS.length; what++) {
+            String word = Texts.SETTINGS[what];
+            Texts.right(Texts.HEAD + word + " " + Texts.LEAST[what] + ";");
+            Texts.right(Texts.HEAD + word + " " + Texts.GREATEST[what] + ";");
+            Texts.bad(3, Texts.HEAD + word + " ^" + (Texts.GREATEST[what] + 1) + ";");
+            if (Texts.LEAST[what] > 0) {
+                Texts.bad(3, Texts.HEAD + word + " ^" + (Texts.LEAST[what] - 1) + ";");
             }
-            bad(1, HEAD + word + "^");
-            bad(1, HEAD + word + " ^;");
-            bad(1, HEAD + word + " 1^");
-            bad(1, HEAD + word + " 1 ^1;");
-            bad(2, HEAD + word + " 1;^" + word + " 1;");
-            bad(2, HEAD + word + " 1;trading;^" + word);
-            RefreshTrader x = Memory.of(HEAD + word + " " + GREATEST[what] + ";");
-            for (int other = 0; other < SETTINGS.length; other++) {
+            Texts.bad(1, Texts.HEAD + word + "^");
+            Texts.bad(1, Texts.HEAD + word + " ^;");
+            Texts.bad(1, Texts.HEAD + word + " 1^");
+            Texts.bad(1, Texts.HEAD + word + " 1 ^1;");
+            Texts.bad(2, Texts.HEAD + word + " 1;^" + word + " 1;");
+            Texts.bad(2, Texts.HEAD + word + " 1;trading;^" + word);
+            RefreshTrader x = Memory.of(Texts.HEAD + word + " " + Texts.GREATEST[what] + ";");
+            for (int other = 0; other < Texts.SETTINGS.length; other++) {
                 Check.same("setting " + other + " behind " + word, x.setting(other),
-                        other == what ? GREATEST[what] : NOT_TOLD[other]);
+                        other == what ? Texts.GREATEST[what] : Texts.NOT_TOLD[other]);
             }
         }
     }
@@ -292,22 +271,22 @@ public final class TextTest {
     /** What was told in one text was not told in the next one, be it right or not. */
     private static void promise3TextsAreApart() {
         RefreshTrader x = new RefreshTrader();
-        String asks = HEAD + "ask 0 0 0;".repeat(20);
+        String asks = Texts.HEAD + "ask 0 0 0;".repeat(20);
         Check.same("20 requests", Memory.parse(x, asks), 0);
         Check.same("20 requests again", Memory.parse(x, asks), 0);
         Check.same("21 requests", Memory.parse(x, asks + "ask 0 0 0;"), 4);
         Check.same("20 requests then", Memory.parse(x, asks), 0);
         Check.same("requests", x.size(5), 20);
-        String all = HEAD + "slots 2;most 2;ahead 2;hot 2;gain 2;patience 2;margin 3;trading;weak 1 1 5 0;";
+        String all = Texts.HEAD + "slots 2;most 2;ahead 2;hot 2;gain 2;patience 2;margin 3;trading;weak 1 1 5 0;";
         Check.same("all settings", Memory.parse(x, all), 0);
         Check.same("all settings again", Memory.parse(x, all), 0);
         Check.same("all settings, and an error", Memory.parse(x, all + ";"), 1);
         Check.same("all settings then", Memory.parse(x, all), 0);
-        Check.same("a text without any", Memory.parse(x, HEAD), 0);
-        Check.same("it is as on a new object", Picture.of(x), Picture.of(Memory.of(HEAD)));
+        Check.same("a text without any", Memory.parse(x, Texts.HEAD), 0);
+        Check.same("it is as on a new object", Picture.of(x), Picture.of(Memory.of(Texts.HEAD)));
         x.ask(0, 0);
         x.ask(0, 1);
-        Check.same("a text with a request", Memory.parse(x, HEAD + "ask 7 1 1;"), 0);
+        Check.same("a text with a request", Memory.parse(x, Texts.HEAD + "ask 7 1 1;"), 0);
         x.ask(1, 0);
         x.pass(1);
         Check.same("the request is to come", x.request(0, 3), 0);
@@ -374,7 +353,7 @@ public final class TextTest {
     }
 
     private static void promise6() {
-        RefreshTrader x = Memory.of(HEAD + "margin 3; patience 7; gain 5; hot 50; ahead 6; most 2; slots 4;");
+        RefreshTrader x = Memory.of(Texts.HEAD + "margin 3; patience 7; gain 5; hot 50; ahead 6; most 2; slots 4;");
         int[] settings = {4, 2, 6, 50, 5, 7, 3};
         for (int what = 0; what < settings.length; what++) {
             Check.same("setting " + what, x.setting(what), settings[what]);
