@@ -91,6 +91,9 @@ public final class LanguageTest {
                 taken.add(m.getName());
             }
         }
+        for (Method m : RefreshTrader.class.getDeclaredMethods()) {
+            Check.holds("a name of its own: " + m, Modifier.isPublic(m.getModifiers()) || !taken.contains(m.getName()));
+        }
         Class<?>[] inside = RefreshTrader.class.getDeclaredClasses();
         Check.holds("at most twelve classes", inside.length < 12);
         for (Class<?> c : inside) {
