@@ -12,8 +12,6 @@ import java.util.regex.Matcher;
 import java.util.regex.Pattern;
 import java.util.stream.Collectors;
 import java.util.stream.Stream;
-import javax.tools.JavaCompiler;
-import javax.tools.ToolProvider;
 
 /** README.md: its example answers what it says, and it names every call and every test. */
 public final class ReadmeTest {
@@ -48,10 +46,9 @@ public final class ReadmeTest {
         try {
             Files.writeString(file, "public final class ReadmeExample {\n"
                     + "public static void run(java.util.Map<String, Object> answers) {\n" + statements + "\n}\n}\n");
-            JavaCompiler compiler = ToolProvider.getSystemJavaCompiler();
-            int code = compiler.run(null, null, null, "-cp", System.getProperty("java.class.path"),
-                    "-d", directory.toString(), file.toString());
-            Check.same("compiling the example", code, 0);
+            Process javac = new ProcessBuilder("javac", "-cp", System.getProperty("java.class.path"),
+                    "-d", directory.toString(), file.toString()).inheritIO().start();
+            Check.same("compiling the example", javac.waitFor(), 0);
             try (URLClassLoader loader = new URLClassLoader(new URL[] {directory.toUri().toURL()})) {
                 loader.loadClass("ReadmeExample").getMethod("run", Map.class).invoke(null, answers);
             }
